@@ -1,0 +1,107 @@
+import java.lang.reflect.Field;
+
+/** Damages the inside of an object, which no call can do, and looks whether sound() sees it. */
+public final class SoundTest {
+    private SoundTest() {
+    }
+
+    public static void main(String[] args) throws ReflectiveOperationException {
+        Check.due("16: undamaged", true, map()::sound);
+        due("a red root", "tree.root.red", true);
+        due("red below red", "tree.root.left.red", true, "tree.root.left.left.red", true);
+        due("a black one more on a way down", "tree.root.right.right.right.red", false);
+        due("a wrong size", "tree.root.left.size", 99);
+        due("a wrong size at the root", "tree.root.size", 5);
+        due("a block too far on", "tree.root.block.start", 9999);
+        due("a block over another", "tree.root.left.block.start", 0);
+        due("a block that is too long", "tree.root.left.block.units", 3);
+        due("an entry over a free block", "tree.root.left.block.owner", null);
+        due("units that are not counted", "heap.used", 1);
+        due("a heap that ends too early", "heap.capacity", 3);
+        dueCopy("a link to another parent", "tree.root.left.left.parent", "tree.root");
+        dueCopy("two entries in one block", "tree.root.left.block", "tree.root.block");
+        dueCopy("a block of an entry that is not there", "tree.root.left", "tree.root.left.left");
+        dueOutOfOrder();
+        dueThreeInALine();
+        Check.end();
+    }
+
+    private static OrderedBytes map() {
+        OrderedBytes map = new OrderedBytes(30, 60);
+        for (int i = 0; i < 20; i++) {
+            Check.put(map, Check.row(2 * i), Check.filled(i * 2, i));
+        }
+        Check.remove(map, Check.row(8));
+        return map;
+    }
+
+    private static void due(String damage, Object... pathsAndValues) throws ReflectiveOperationException {
+        OrderedBytes map = map();
+        for (int i = 0; i < pathsAndValues.length; i += 2) {
+            set(map, (String) pathsAndValues[i], pathsAndValues[i + 1]);
+        }
+        Check.due("16: " + damage, false, map::sound);
+    }
+
+    private static void dueCopy(String damage, String to, String from) throws ReflectiveOperationException {
+        OrderedBytes map = map();
+        set(map, to, reach(map, from));
+        Check.due("16: " + damage, false, map::sound);
+    }
+
+    /** The first byte of the root's block is its key: a greater one stands out of order. */
+    private static void dueOutOfOrder() throws ReflectiveOperationException {
+        for (int key : new int[] {0, 255}) {
+            OrderedBytes map = map();
+            byte[] bytes = (byte[]) reach(map, "heap.bytes");
+            bytes[16 * (Integer) reach(map, "tree.root.block.start")] = (byte) key;
+            Check.due("16: keys out of order", false, map::sound);
+        }
+    }
+
+    /** All links, sizes and the order are right; only the colours can tell that the tree is not balanced. */
+    private static void dueThreeInALine() throws ReflectiveOperationException {
+        OrderedBytes map = new OrderedBytes(30, 60);
+        for (int i = 0; i < 3; i++) {
+            Check.put(map, Check.row(i), new byte[0]);
+        }
+        Object least = reach(map, "tree.root.left");
+        Object middle = reach(map, "tree.root");
+        Object nil = reach(map, "tree.nil");
+        Object greatest = reach(map, "tree.root.right");
+        set(map, "tree.root.left", nil);
+        set(map, "tree.root.size", 2);
+        setField(least, "right", middle);
+        setField(middle, "parent", least);
+        setField(least, "parent", nil);
+        setField(least, "size", 3);
+        setField(least, "red", false);
+        setField(middle, "red", true);
+        setField(greatest, "red", false);
+        set(map, "tree.root", least);
+        Check.due("16: three in a line", false, map::sound);
+    }
+
+    private static Object reach(Object from, String path) throws ReflectiveOperationException {
+        Object reached = from;
+        for (String name : path.split("\\.")) {
+            reached = field(reached, name).get(reached);
+        }
+        return reached;
+    }
+
+    private static void set(Object from, String path, Object value) throws ReflectiveOperationException {
+        int dot = path.lastIndexOf('.');
+        setField(reach(from, path.substring(0, dot)), path.substring(dot + 1), value);
+    }
+
+    private static void setField(Object owner, String name, Object value) throws ReflectiveOperationException {
+        field(owner, name).set(owner, value);
+    }
+
+    private static Field field(Object owner, String name) throws ReflectiveOperationException {
+        Field field = owner.getClass().getDeclaredField(name);
+        field.setAccessible(true);
+        return field;
+    }
+}
