@@ -22,6 +22,10 @@ public final class SoundTest {
         dueCopy("two entries in one block", "tree.root.left.block", "tree.root.block");
         dueCopy("a block of an entry that is not there", "tree.root.left", "tree.root.left.left");
         dueOutOfOrder();
+        dueOneKeyTwice();
+        dueRedRootAlone();
+        dueRedBelowRed(3, 1, 2, 0);
+        dueRedBelowRed(0, 1, 2, 3);
         dueThreeInALine();
         Check.end();
     }
@@ -59,12 +63,43 @@ public final class SoundTest {
         }
     }
 
+    private static OrderedBytes mapOf(int... keys) {
+        OrderedBytes map = new OrderedBytes(30, 60);
+        for (int key : keys) {
+            Check.put(map, Check.row(key), new byte[0]);
+        }
+        return map;
+    }
+
+    private static void dueOneKeyTwice() throws ReflectiveOperationException {
+        for (String below : new String[] {"left", "right"}) {
+            OrderedBytes map = mapOf(2, 1, 3);
+            byte[] bytes = (byte[]) reach(map, "heap.bytes");
+            int root = (Integer) reach(map, "tree.root.block.start");
+            int other = (Integer) reach(map, "tree.root." + below + ".block.start");
+            bytes[16 * other] = bytes[16 * root];
+            Check.due("16: one key twice", false, map::sound);
+        }
+    }
+
+    private static void dueRedRootAlone() throws ReflectiveOperationException {
+        OrderedBytes map = mapOf(1);
+        set(map, "tree.root.red", true);
+        Check.due("16: a red root without others", false, map::sound);
+    }
+
+    /** The fourth key lies red below a black one: with both below the root red, each way has still as many black ones. */
+    private static void dueRedBelowRed(int... keys) throws ReflectiveOperationException {
+        OrderedBytes map = mapOf(keys);
+        Check.due("16: four entries", true, map::sound);
+        set(map, "tree.root.left.red", true);
+        set(map, "tree.root.right.red", true);
+        Check.due("16: only red below red is wrong", false, map::sound);
+    }
+
     /** All links, sizes and the order are right; only the colours can tell that the tree is not balanced. */
     private static void dueThreeInALine() throws ReflectiveOperationException {
-        OrderedBytes map = new OrderedBytes(30, 60);
-        for (int i = 0; i < 3; i++) {
-            Check.put(map, Check.row(i), new byte[0]);
-        }
+        OrderedBytes map = mapOf(0, 1, 2);
         Object least = reach(map, "tree.root.left");
         Object middle = reach(map, "tree.root");
         Object nil = reach(map, "tree.nil");
