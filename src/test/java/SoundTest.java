@@ -1,3 +1,4 @@
+import java.lang.reflect.Constructor;
 import java.lang.reflect.Field;
 
 /** Damages the inside of an object, which no call can do, and looks whether sound() sees it. */
@@ -16,6 +17,7 @@ public final class SoundTest {
         due("a block over another", "tree.root.left.block.start", 0);
         due("a block that is too long", "tree.root.left.block.units", 3);
         due("an entry over a free block", "tree.root.left.block.owner", null);
+        due("a value that goes on behind its block", "tree.root.left.valueBytes", 300);
         due("units that are not counted", "heap.used", 1);
         due("a heap that ends too early", "heap.capacity", 3);
         dueCopy("a link to another parent", "tree.root.left.left.parent", "tree.root");
@@ -27,6 +29,11 @@ public final class SoundTest {
         dueRedBelowRed(3, 1, 2, 0);
         dueRedBelowRed(0, 1, 2, 3);
         dueThreeInALine();
+        dueOwnersChanged();
+        dueOwnerNotInTheTree();
+        dueEmptyBlock();
+        dueRootBelowAnother();
+        dueRedEnd();
         Check.end();
     }
 
@@ -115,6 +122,57 @@ public final class SoundTest {
         setField(greatest, "red", false);
         set(map, "tree.root", least);
         Check.due("16: three in a line", false, map::sound);
+    }
+
+    /** Both blocks are as long, and both owners are in the tree; only each has the other's block. */
+    private static void dueOwnersChanged() throws ReflectiveOperationException {
+        OrderedBytes map = mapOf(2, 1, 3);
+        Object left = reach(map, "tree.root.left");
+        set(map, "tree.root.left.block.owner", reach(map, "tree.root.right"));
+        set(map, "tree.root.right.block.owner", left);
+        Check.due("16: owners changed", false, map::sound);
+    }
+
+    /** A twin stands in the tree in the owner's place. */
+    private static void dueOwnerNotInTheTree() throws ReflectiveOperationException {
+        OrderedBytes map = mapOf(2, 1, 3);
+        Object twin = made(reach(map, "tree.root.left"), 1);
+        for (String name : new String[] {"block", "left", "right", "parent", "red", "size"}) {
+            setField(twin, name, reach(map, "tree.root.left." + name));
+        }
+        set(map, "tree.root.left", twin);
+        Check.due("16: an owner that is not in the tree", false, map::sound);
+    }
+
+    private static void dueEmptyBlock() throws ReflectiveOperationException {
+        OrderedBytes map = mapOf(2, 1, 3);
+        Object empty = made(reach(map, "heap.edge"), 0, 0);
+        setField(empty, "behind", reach(map, "heap.edge.behind"));
+        set(map, "heap.edge.behind", empty);
+        Check.due("16: a block without units", false, map::sound);
+    }
+
+    private static void dueRootBelowAnother() throws ReflectiveOperationException {
+        OrderedBytes map = mapOf(2, 1, 3);
+        Object other = made(reach(map, "tree.root"), 1);
+        for (String name : new String[] {"left", "right", "parent"}) {
+            setField(other, name, reach(map, "tree.nil"));
+        }
+        set(map, "tree.root.parent", other);
+        Check.due("16: a root below another node", false, map::sound);
+    }
+
+    private static void dueRedEnd() throws ReflectiveOperationException {
+        OrderedBytes map = mapOf(1);
+        set(map, "tree.nil.red", true);
+        Check.due("16: a red end of the ways down", false, map::sound);
+    }
+
+    /** A new object of the same class as another one's, made from whole numbers. */
+    private static Object made(Object alike, Object... numbers) throws ReflectiveOperationException {
+        Constructor<?> constructor = alike.getClass().getDeclaredConstructors()[0];
+        constructor.setAccessible(true);
+        return constructor.newInstance(numbers);
     }
 
     private static Object reach(Object from, String path) throws ReflectiveOperationException {
