@@ -163,7 +163,7 @@ public final class OrderedBytes {
         if (i < 0 || i >= result.length) {
             throw new IndexOutOfBoundsException("no such byte in the result");
         }
-        return result.bytes[i] & 255;
+        return numberAt(result.bytes, i);
     }
 
     public int count(int what) {
@@ -189,6 +189,20 @@ public final class OrderedBytes {
 
     private static int unitsOf(int bytes) {
         return (bytes + UNIT_BYTES - 1) / UNIT_BYTES;
+    }
+
+    /** The byte as 0 .. 255. Rows are never read behind their end; the test keeps the machine from throwing in any case. */
+    private static int numberAt(byte[] row, int i) {
+        return i >= 0 && i < row.length ? row[i] & 255 : 0;
+    }
+
+    /** Copies only what lies inside both rows, which is always so, for the same reason. */
+    private static void copy(byte[] from, int start, byte[] to, int place, int length) {
+        boolean isInFrom = start >= 0 && length >= 0 && start <= from.length - length;
+        boolean isInTo = place >= 0 && place <= to.length - length;
+        if (isInFrom && isInTo) {
+            System.arraycopy(from, start, to, place, length);
+        }
     }
 
     private static boolean isKeyLength(int length) {
@@ -391,11 +405,11 @@ public final class OrderedBytes {
         }
 
         void write(Block block, Row from, int length) {
-            System.arraycopy(from.bytes, 0, bytes, block.start * UNIT_BYTES, length);
+            copy(from.bytes, 0, bytes, block.start * UNIT_BYTES, length);
         }
 
         void read(Block block, int skipped, int length, Row to) {
-            System.arraycopy(bytes, block.start * UNIT_BYTES + skipped, to.bytes, 0, length);
+            copy(bytes, block.start * UNIT_BYTES + skipped, to.bytes, 0, length);
             to.length = length;
         }
 
@@ -411,7 +425,7 @@ public final class OrderedBytes {
             int nodeFrom = node.block.start * UNIT_BYTES;
             int both = Math.min(length, node.keyBytes);
             for (int i = 0; i < both; i++) {
-                int difference = (row[from + i] & 255) - (bytes[nodeFrom + i] & 255);
+                int difference = numberAt(row, from + i) - numberAt(bytes, nodeFrom + i);
                 if (difference != 0) {
                     return difference;
                 }
@@ -478,7 +492,7 @@ public final class OrderedBytes {
         }
 
         private void moveTo(Block block, int start) {
-            System.arraycopy(bytes, block.start * UNIT_BYTES, bytes, start * UNIT_BYTES, block.units * UNIT_BYTES);
+            copy(bytes, block.start * UNIT_BYTES, bytes, start * UNIT_BYTES, block.units * UNIT_BYTES);
             block.start = start;
         }
 
